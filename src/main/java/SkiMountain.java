@@ -75,13 +75,13 @@ public final class SkiMountain {
     private Law rules = new Law(1);
     private final Tellings winds = new Tellings(MAX_WEATHER);
     private final Tellings passes = new Tellings(MAX_PASSES);
-    private final Outlook outlook = new Outlook();
+    private final Outlook outlook = new Outlook(slopes);
     private final Routes routes = new Routes(outlook);
     private final Skier[] skiers = new Skier[MAX_SKIERS];
     private int skierCount;
     private final Crowds crowds = new Crowds();
     private final Day lastDay = new Day(crowds, outlook);
-    private final Sweeps sweeps = new Sweeps();
+    private final Sweeps sweeps = new Sweeps(slopes);
 
     public SkiMountain() {
     }
@@ -119,7 +119,7 @@ public final class SkiMountain {
         passes.count = 0;
         crowds.forgetWays();
         lastDay.wasRun = false;
-        sweeps.forget();
+        sweeps.forget(slopes);
         return told.lines;
     }
 
@@ -212,7 +212,7 @@ public final class SkiMountain {
         if (!within(skill, SKILLS) || skierCount >= MAX_SKIERS) {
             return NONE;
         }
-        skiers[skierCount] = new Skier(skill);
+        skiers[skierCount] = new Skier(skill, slopes);
         skierCount++;
         return skierCount - 1;
     }
@@ -335,7 +335,7 @@ public final class SkiMountain {
         if (!within(p, PLACES) || patrollers < 1 || patrollers > 2) {
             return NONE;
         }
-        return sweeps.least(slopes, p, patrollers);
+        return sweeps.least(p, patrollers);
     }
 
     public int about(int what) {
@@ -398,6 +398,9 @@ public final class SkiMountain {
         }
         look(k);
         Skier one = skiers[skier];
+        if (one == null) {
+            return null;
+        }
         if (one.changes != changes || one.known != k) {
             one.reckon(outlook, passes, skier);
             one.changes = changes;
@@ -954,6 +957,10 @@ public final class SkiMountain {
         private int changes = NONE;
         private int known;
 
+        Outlook(Slopes slopes) {
+            this.slopes = slopes;
+        }
+
         void look(Slopes mountain, Law law, Tellings weather, int k) {
             slopes = mountain;
             known = k;
@@ -1151,8 +1158,9 @@ public final class SkiMountain {
         private int changes = NONE;
         private int known;
 
-        Skier(int skill) {
+        Skier(int skill, Slopes slopes) {
             this.skill = skill;
+            this.slopes = slopes;
         }
 
         void reckon(Outlook outlook, Tellings passes, int number) {
@@ -1509,24 +1517,25 @@ public final class SkiMountain {
         private int patrollers;
         private int best;
 
-        Sweeps() {
-            Arrays.fill(answers, UNKNOWN);
+        Sweeps(Slopes slopes) {
+            forget(slopes);
         }
 
-        void forget() {
+        /** Another MOUNTAIN is told. */
+        private void forget(Slopes mountain) {
+            slopes = mountain;
             Arrays.fill(answers, UNKNOWN);
+            findBetween();
+            findAbove();
         }
 
-        int least(Slopes mountain, int p, int many) {
+        int least(int p, int many) {
             int row = (many - 1) * PLACES + p;
             if (answers[row] == UNKNOWN) {
-                slopes = mountain;
                 patrollers = many;
                 best = FAR;
                 Arrays.fill(stands, p);
                 Arrays.fill(free, 0);
-                findBetween();
-                findAbove();
                 goOn(this, 0, 0, 0);
                 answers[row] = best == FAR ? NONE : best;
             }
@@ -1613,7 +1622,7 @@ public final class SkiMountain {
             for (int run = 0; run < slopes.runs; run++) {
                 minutes += (begun >> run & 1) == 0 ? slopes.takes[FIRST_RUN + run] : 0;
             }
-            return minutes < (long) best * patrollers;
+            return minutes < best * patrollers;
         }
     }
 }

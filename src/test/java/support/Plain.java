@@ -13,6 +13,7 @@ final class Plain {
     static final int NONE = -1;
 
     static final class Fault extends Exception {
+        private static final long serialVersionUID = 1;
         final int kind;
         final int place;
 
