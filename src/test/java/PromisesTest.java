@@ -19,6 +19,7 @@ public final class PromisesTest {
     public static void main(String[] args) {
         newObject();
         tape();
+        cutText();
         mountainText();
         mountainFaults();
         mountainLimits();
@@ -42,6 +43,7 @@ public final class PromisesTest {
         pass();
         unpass();
         can();
+        canClash();
         canOn();
         canWithoutGates();
         places();
@@ -51,6 +53,7 @@ public final class PromisesTest {
         make();
         day();
         turnsGoOn();
+        turnsLeftOut();
         shutInTheDay();
         offDuty();
         snowfall();
@@ -133,6 +136,22 @@ public final class PromisesTest {
         due("at 0", x.fault(1), 0);
     }
 
+    /** What was cut off from the TAPE is no part of the last TOKEN. */
+    private static void cutText() {
+        String[] cut = {"home p|0;", "home p0|x", "lift a p0 p1 takes 3|1", "lift a p0 p1 takes 3|x",
+            "lift a p0 p1 takes 3333|3", "lift seat|s", "lift abcdefgh|i"};
+        int[] places = {5, 7, 20, 20, 19, 9, 13};
+        for (int n = 0; n < cut.length; n++) {
+            int end = cut[n].indexOf('|');
+            x = new SkiMountain();
+            Check.tape(x, Check.bytes(cut[n].replace("|", "")));
+            due("end " + cut[n], x.end(end), end);
+            due("cut " + cut[n], x.mountain(), NONE);
+            due("fault of " + cut[n], x.fault(0), n == 4 ? 4 : 2);
+            due("place of " + cut[n], x.fault(1), places[n]);
+        }
+    }
+
     // ---- 4
 
     private static void mountainText() {
@@ -194,6 +213,9 @@ public final class PromisesTest {
         badMountain("lift p0 p1 p2", 2, 5);
         badMountain("lift p 5", 2, 7);
         badMountain("lift a 12a", 1, 7);
+        badMountain("lift a 12z", 1, 7);
+        badMountain("lift z 12{", 2, 7);
+        badMountain("lift a`", 1, 6);
         badMountain("lift a p1 p1", 5, 10);
         badMountain("run a p1 p1", 5, 9);
         badMountain("lift a p1;", 2, 9);
@@ -743,6 +765,8 @@ public final class PromisesTest {
         due("the new one", x.can(0, 2, 76, 4), 1);
         due("not known before", x.can(0, 2, 75, 3), 1);
         due("ahead of all", x.can(0, 2, 75, -1), 0);
+        due("untold at once", x.unpass(1), true);
+        due("known at once", x.can(0, 2, 76, 4), 0);
     }
 
     private static void can() {
@@ -779,6 +803,32 @@ public final class PromisesTest {
         due("not in time for the other", x.can(1, 0, 0, 0), 0);
         Check.law(x, "shut run if grade=3;");
         due("as OPEN", x.can(0, 2, 75, 0), 1);
+    }
+
+    private static void canClash() {
+        fresh("lift a p0 p1 takes 3 seats 1 from 0 to 480 gate;lift b p0 p2 takes 3 seats 1 from 0 to 480 gate;");
+        x.skier(0);
+        x.pass(0, 0, 9);
+        x.pass(0, 0, 9);
+        due("twice the same", x.can(0, 1, 12, 0), 1);
+        x.pass(0, 1, 9);
+        due("two LIFTS at one MINUTE: p1", x.can(0, 1, 12, 0), 0);
+        due("two LIFTS at one MINUTE: p2", x.can(0, 2, 12, 0), 0);
+        due("two LIFTS at one MINUTE: home", x.places(0, 0, 0) + x.places(0, 540, 0), 0);
+        x.pass(0, 1, 9);
+        due("one of them twice", x.places(0, 9, 0), 0);
+        x.unpass(0);
+        x.unpass(1);
+        due("the other left", x.can(0, 2, 12, 0), 1);
+        x.unpass(2);
+        x.unpass(3);
+        due("home again", x.can(0, 0, 540, 0), 1);
+        x.pass(0, 0, 9);
+        x.pass(0, 1, 11);
+        due("while he is on the other", x.places(0, 10, 0), 0);
+        x.unpass(5);
+        x.pass(0, 1, 12);
+        due("from where he is not", x.places(0, 10, 0), 0);
     }
 
     private static void canOn() {
@@ -974,6 +1024,28 @@ public final class PromisesTest {
         due("snow of a", x.snow(0, 2), 2995);
         due("snow of b", x.snow(1, 0), 9);
         due("LONGEST of a RUN", x.took(10, 1), 0);
+    }
+
+    /** The row goes on behind the WAY taken, whatever was left out ahead of it. */
+    private static void turnsLeftOut() {
+        fresh("lift a p0 p1 takes 30 seats 99 from 0 to 480;run b p0 p2 grade 0 takes 50 snow 99;"
+            + "run c p0 p3 grade 0 takes 50 snow 99;");
+        Check.law(x, "shut run if hour=1;");
+        x.turn(0);
+        x.turn(10);
+        x.turn(11);
+        x.arrive(0, 2);
+        x.arrive(60, 1);
+        x.arrive(120, 1);
+        x.day(0);
+        due("b took the second and the last", x.took(10, 0), 2);
+        due("c none", x.took(11, 0), 0);
+        due("a the others", x.took(0, 0), 2);
+        x.arrive(120, 3);
+        x.day(0);
+        due("b", x.took(10, 0), 3);
+        due("c", x.took(11, 0), 1);
+        due("a", x.took(0, 0), 3);
     }
 
     private static void shutInTheDay() {
