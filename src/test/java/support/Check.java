@@ -65,4 +65,37 @@ final class Check {
         due("tape of " + text, tape(x, bytes(text)), true);
         return x.law();
     }
+
+    /** A new object with a MOUNTAIN that can be. */
+    static SkiMountain made(String mountain) {
+        SkiMountain x = new SkiMountain();
+        due("can be: " + mountain, mountain(x, mountain) >= 0, true);
+        return x;
+    }
+
+    /** A text has so many lines and no FAULT, on a new object. */
+    static void good(boolean law, String text, int lines) {
+        SkiMountain x = new SkiMountain();
+        due("lines of " + text, law ? law(x, text) : mountain(x, text), lines);
+        due("no fault of " + text, x.fault(0), 0);
+        due("no place in " + text, x.fault(1), SkiMountain.NONE);
+        due("TAPE behind " + text, x.about(8), 0);
+    }
+
+    /** A text has a FAULT at a place, on a new object. */
+    static void bad(boolean law, String text, int fault, int place) {
+        SkiMountain x = new SkiMountain();
+        due("answer for " + text, law ? law(x, text) : mountain(x, text), SkiMountain.NONE);
+        due("fault of " + text, x.fault(0), fault);
+        due("place in " + text, x.fault(1), place);
+        due("TAPE behind " + text, x.about(8), 0);
+    }
+
+    static String times(String one, int many) {
+        StringBuilder b = new StringBuilder();
+        for (int n = 0; n < many; n++) {
+            b.append(one);
+        }
+        return b.toString();
+    }
 }
