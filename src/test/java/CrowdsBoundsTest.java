@@ -32,7 +32,12 @@ public final class CrowdsBoundsTest {
         undecidedTakeTurnsAgain();
         noTurns();
         nextOfTheRowForEver();
+        eachDayFromTheFirstOn();
+        rowsOfOtherPlaces();
+        rowStandsWhileNoneCanBeTaken();
         leftOutForThisTime();
+        leftOutOfWholeRounds();
+        leftOutOfRoundsOfFour();
         notShut();
         tenMillimetres();
         oneMillimetreLess();
@@ -45,14 +50,17 @@ public final class CrowdsBoundsTest {
         asAreQueued();
         liftsThatAreShutTakeNobody();
         offDutyBehindThisMinute();
+        shutAsItGoesOffDuty();
         undecidedFromNowOn();
         longestBehindAMinute();
+        longestBehindAllOfThat();
         longestOfRuns();
         waitAsked();
         queuedForAllItsLifts();
         snowAsked();
         tookAsked();
         ofTheDayRunLast();
+        oneDayAsTheOther();
         asKnownAtK();
         dayWithoutAnything();
         fullDay();
@@ -73,7 +81,7 @@ public final class CrowdsBoundsTest {
 
     private static String run(String ends, int takes, int snow) {
         return "run r" + ends.replace("p", "").replace(" ", "").replace('0', 'a').replace('1', 'b').replace('2', 'c')
-            .replace('3', 'd') + " " + ends + " grade 0 takes " + takes + " snow " + snow + ";";
+            .replace('3', 'd').replace('4', 'e') + " " + ends + " grade 0 takes " + takes + " snow " + snow + ";";
     }
 
     // ---- 22: arrive
@@ -457,8 +465,76 @@ public final class CrowdsBoundsTest {
             due("12 up to " + minute, 3000 - x.snow(2, minute), third[minute]);
         }
         due("all", x.took(10, 0) + x.took(11, 0) + x.took(12, 0), 12);
-        x.day(0);
-        due("each day from the first on", 3000 - x.snow(0, 0), 1);
+    }
+
+    /** TURNS begin with the first of the row in each day, wherever the day ahead ended in it. */
+    private static void eachDayFromTheFirstOn() {
+        SkiMountain x = Check.made(run("p0 p1", 9, 300) + run("p0 p2", 9, 300) + run("p0 p3", 9, 300));
+        x.turn(10);
+        x.turn(11);
+        x.turn(12);
+        x.arrive(7, 4);
+        for (int day = 0; day < 4; day++) {
+            x.day(0);
+            due("two by the first in day " + day, x.took(10, 0), 2);
+            due("one by the second in day " + day, x.took(11, 0), 1);
+            due("one by the third in day " + day, x.took(12, 0), 1);
+        }
+    }
+
+    /** Each P has a row of its own, p0 no other than p9. */
+    private static void rowsOfOtherPlaces() {
+        for (int home = 0; home <= 9; home++) {
+            int there = (home + 4) % 10;
+            int end = (home + 7) % 10;
+            SkiMountain x = Check.made("run a p" + home + " p" + there + " grade 0 takes 1 snow 300;"
+                + "run b p" + home + " p" + end + " grade 0 takes 1 snow 300;"
+                + "run c p" + there + " p" + end + " grade 0 takes 1 snow 2;"
+                + "run d p" + there + " p" + (end + 1) % 10 + " grade 0 takes 1 snow 300;home p" + home + ";");
+            x.turn(10);
+            x.turn(11);
+            x.turn(10);
+            x.turn(12);
+            x.turn(13);
+            for (int minute = 0; minute < 5; minute++) {
+                x.arrive(minute, 1);
+            }
+            x.arrive(100, 60);
+            due("all are gone from p" + home, x.day(0), 0);
+            due("a to 4", 3000 - x.snow(0, 4), 3);
+            due("b to 4", 3000 - x.snow(1, 4), 2);
+            due("a", x.took(10, 0), 43);
+            due("b", x.took(11, 0), 22);
+            due("c by turns, to its last snow", x.took(12, 0), 11);
+            due("d has the others", x.took(13, 0), 32);
+            due("none wait there", x.wait(there, 479, 0), 0);
+            due("all of b and c at the end", x.wait(end, 479, 0), 33);
+        }
+    }
+
+    /** "if no WAY of them can be taken, all wait": the row does not go on, nor begin anew. */
+    private static void rowStandsWhileNoneCanBeTaken() {
+        for (int before = 0; before <= 6; before++) {
+            for (int many = 1; many <= 4; many++) {
+                SkiMountain x = Check.made(run("p0 p1", 9, 300) + run("p0 p2", 9, 300) + run("p0 p3", 9, 300));
+                Check.law(x, "shut run if hour=1;");
+                for (int way = 10; way <= 12; way++) {
+                    x.turn(way);
+                }
+                if (before > 0) {
+                    x.arrive(5, before);
+                }
+                x.arrive(70, many);
+                x.day(0);
+                due("all wait in HOUR 1", x.wait(0, 119, 0), many);
+                due("none behind it", x.wait(0, 120, 0), 0);
+                for (int run = 0; run < 3; run++) {
+                    int want = (before + many + 2 - run) / 3;
+                    due(before + " and " + many + ": RUN " + run, x.took(10 + run, 0), want);
+                    due(before + ": RUN " + run + " to 119", 3000 - x.snow(run, 119), (before + 2 - run) / 3);
+                }
+            }
+        }
     }
 
     /** "leaving others out for this time": the row goes on behind the one taken. */
@@ -479,6 +555,81 @@ public final class CrowdsBoundsTest {
         due("11 not left out at 60", x.snow(1, 60), 399);
         due("12 behind it", x.snow(2, 60), 3398);
         due("10 not at 60", x.snow(0, 60), 3398);
+    }
+
+    /**
+     * The same, when many take TURNS in one MINUTE, so that the row is gone through in whole rounds:
+     * it goes on behind the last that was taken, even if what comes there was left out before.
+     */
+    private static void leftOutOfWholeRounds() {
+        for (int out = 0; out < 3; out++) {
+            for (int first = 0; first <= 2; first++) {
+                for (int many = 1; many <= 9; many++) {
+                    SkiMountain x = threeRuns(out);
+                    for (int n = 0; n < first; n++) {
+                        x.arrive(n, 1);
+                    }
+                    x.arrive(59, many);
+                    x.arrive(60, 1);
+                    x.day(0);
+                    int[] took = new int[3];
+                    int next = 0;
+                    for (int n = 0; n < first + many; n++) {
+                        next = next == out ? (next + 1) % 3 : next;
+                        took[next]++;
+                        next = (next + 1) % 3;
+                    }
+                    took[next]++;
+                    for (int run = 0; run < 3; run++) {
+                        due(first + " and " + many + " without " + out + ": RUN " + run, x.took(10 + run, 0), took[run]);
+                    }
+                }
+            }
+        }
+    }
+
+    /** TURNS of three RUNS; one of them has snow from HOUR 1 on alone. */
+    private static SkiMountain threeRuns(int bare) {
+        SkiMountain x = Check.made(run("p0 p1", 9, bare == 0 ? 0 : 300) + run("p0 p2", 9, bare == 1 ? 0 : 300)
+            + run("p0 p3", 9, bare == 2 ? 0 : 300));
+        x.weather(1, 0, 40);
+        x.turn(10);
+        x.turn(11);
+        x.turn(12);
+        return x;
+    }
+
+    /** A row of four with two left out, those beside one another, and those not. */
+    private static void leftOutOfRoundsOfFour() {
+        for (int bare = 0; bare < 15; bare++) {
+            StringBuilder b = new StringBuilder();
+            for (int run = 0; run < 4; run++) {
+                b.append(run("p0 p" + (run + 1), 9, (bare >> run & 1) != 0 ? 0 : 300));
+            }
+            for (int many = 1; many <= 9; many++) {
+                SkiMountain x = Check.made(b.toString());
+                x.weather(1, 0, 40);
+                for (int run = 0; run < 4; run++) {
+                    x.turn(10 + run);
+                }
+                x.arrive(59, many);
+                x.arrive(60, 1);
+                x.day(0);
+                int[] took = new int[4];
+                int next = 0;
+                for (int n = 0; n < many; n++) {
+                    while ((bare >> next & 1) != 0) {
+                        next = (next + 1) % 4;
+                    }
+                    took[next]++;
+                    next = (next + 1) % 4;
+                }
+                took[next]++;
+                for (int run = 0; run < 4; run++) {
+                    due(many + " without " + bare + ": RUN " + run, x.took(10 + run, 0), took[run]);
+                }
+            }
+        }
     }
 
     /** "the next WAY of the row that is not SHUT": by the MINUTE's HOUR. */
@@ -667,6 +818,22 @@ public final class CrowdsBoundsTest {
         due("undecided at 479", y.wait(0, 479, 0), 5);
     }
 
+    /** It goes off duty whether it is SHUT then or not. */
+    private static void shutAsItGoesOffDuty() {
+        SkiMountain x = Check.made(lift("a", 5, 1, 0, 120));
+        Check.law(x, "shut lift if hour=1;");
+        x.turn(0);
+        x.arrive(50, 30);
+        due("twenty stay", x.day(0), 20);
+        due("queued at 59", x.wait(0, 59, 1), 20);
+        due("queued at 118", x.wait(0, 118, 1), 20);
+        due("undecided at 118", x.wait(0, 118, 0), 0);
+        due("queued at 119", x.wait(0, 119, 1), 0);
+        due("undecided at 119", x.wait(0, 119, 0), 20);
+        due("undecided at 479", x.wait(0, 479, 0), 20);
+        due("ten got on", x.took(0, 0), 10);
+    }
+
     /** "at its P from now on": they take TURNS again in the next MINUTE. */
     private static void undecidedFromNowOn() {
         SkiMountain x = Check.made(lift("a", 5, 2, 0, 60) + run("p0 p2", 9, 300));
@@ -698,6 +865,22 @@ public final class CrowdsBoundsTest {
         due("half of them", x.took(0, 1), 0);
         due("the others wait", x.took(1, 1), 17);
         due("and all go", x.took(1, 0), 17);
+    }
+
+    /** (d) ends with who waits undecided as the LIFT goes off duty: they are queued no more. */
+    private static void longestBehindAllOfThat() {
+        SkiMountain x = Check.made(lift("a", 5, 2, 0, 1));
+        x.turn(0);
+        x.arrive(0, 9);
+        x.day(0);
+        due("its one MINUTE", x.took(0, 1), 0);
+        due("got on", x.took(0, 0), 2);
+        due("undecided", x.wait(0, 0, 0), 7);
+        SkiMountain y = Check.made(lift("b", 5, 2, 0, 2));
+        y.turn(0);
+        y.arrive(0, 9);
+        y.day(0);
+        due("its first of two", y.took(0, 1), 7);
     }
 
     /** "LONGEST (of a LIFT; 0 of a RUN)". */
@@ -810,6 +993,46 @@ public final class CrowdsBoundsTest {
         due("wait now", x.wait(0, 0, 1), 8);
         due("snow now", x.snow(0, 0), 460);
         due("took now", x.took(0, 0), 10);
+    }
+
+    /** A day that is run again is as it was: nobody is left of the one ahead. */
+    private static void oneDayAsTheOther() {
+        SkiMountain x = Check.made(lift("a", 5, 1, 0, 100) + run("p1 p0", 9, 2) + lift("b", 7, 2, 50, 480));
+        x.turn(0);
+        x.turn(1);
+        x.turn(0);
+        x.turn(10);
+        x.make(0, 1);
+        x.arrive(3, 25);
+        x.arrive(60, 8);
+        int home = x.day(0);
+        int[] first = seenOfADay(x);
+        for (int day = 0; day < 2; day++) {
+            due("home again", x.day(0), home);
+            int[] again = seenOfADay(x);
+            for (int n = 0; n < first.length; n++) {
+                due("number " + n + " again", again[n], first[n]);
+            }
+        }
+        due("queued at 4", x.wait(0, 4, 1), 25 - 2);
+        due("and one less at 5", x.wait(0, 5, 1), 25 - 3);
+    }
+
+    private static int[] seenOfADay(SkiMountain x) {
+        int[] all = new int[50];
+        int at = 0;
+        for (int minute : new int[] {4, 5, 20, 49, 60, 99, 100, 479}) {
+            for (int p = 0; p < 2; p++) {
+                all[at++] = x.wait(p, minute, 0);
+                all[at++] = x.wait(p, minute, 1);
+            }
+            all[at++] = x.snow(0, minute);
+        }
+        for (int way : new int[] {0, 1, 10}) {
+            all[at++] = x.took(way, 0);
+            all[at++] = x.took(way, 1);
+        }
+        return all;
     }
 
     /** "(WEATHER as known when it is run, at a k)". */

@@ -228,6 +228,8 @@ public final class MountainBoundsTest {
         bad("home p0:;", 1, 7);
         bad("home p0`;", 1, 7);
         bad("home p0{;", 1, 7);
+        bad("home p0A;", 1, 7);
+        bad("home p0Z;", 1, 7);
         bad("lift p0", 2, 5);
         bad("lift p00", 2, 6);
         bad("lift p0a", 1, 6);
@@ -294,6 +296,9 @@ public final class MountainBoundsTest {
         bad("lift a p0 p1 takes 5\nx", 2, 21);
         bad("lift a p0 p1 takes 5`", 1, 20);
         bad("lift a p0 p1 takes 5{", 1, 20);
+        // letters are a .. z: what follows is no TOKEN of its own
+        bad("lift a p0 p1 takes 5A", 1, 20);
+        bad("lift a p0 p1 takes 5Z", 1, 20);
         bad("lift a p0 p1 takes 5", 2, 20);
         bad("lift a p0 p1 takes 5 seats 6 from 7 to 8a;", 1, 39);
         bad("5x", 1, 0);

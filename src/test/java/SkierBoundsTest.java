@@ -39,12 +39,15 @@ public final class SkierBoundsTest {
         openForOthers();
         passAtTheFirstMinute();
         passAtTheLastMinute();
+        passAtTheLastMinuteBinds();
         eachPassIsABeginning();
         nextPassJustInTime();
         againstOneAnother();
+        anyTwoLiftsAgainstOneAnother();
         twiceTheSame();
         passesOfOthers();
         runsByGrade();
+        eachWayAlone();
         fasterByGrade();
         lastBeginnings();
         weatherAsKnown();
@@ -466,6 +469,25 @@ public final class SkierBoundsTest {
         due("not home at 480", x.can(0, 0, 480, 0), 0);
     }
 
+    /** Who got on at 479 stood there then, and nowhere else. */
+    private static void passAtTheLastMinuteBinds() {
+        SkiMountain x = Check.made("lift g p0 p1 takes 30 seats 1 from 0 to 100 gate;lift f p0 p2 takes 5 seats 1 from 0 to 480;"
+            + "run r p2 p0 grade 0 takes 7 snow 0;");
+        x.skier(0);
+        due("up at 479 without it", x.can(0, 2, 479, 0), 1);
+        due("on the way up without it", x.canOn(0, 1, 479, 0), 1);
+        x.pass(0, 0, 479);
+        due("home at 479", x.can(0, 0, 479, 0), 1);
+        due("not up at 479", x.can(0, 2, 479, 0), 0);
+        due("not on the way up", x.canOn(0, 1, 479, 0), 0);
+        due("nor down", x.canOn(0, 10, 479, 0), 0);
+        due("there and on it", x.places(0, 479, 0), 2);
+        due("down just in time", x.canOn(0, 10, 478, 0), 1);
+        due("from above at 472", x.can(0, 2, 472, 0), 1);
+        due("not at 473", x.can(0, 2, 473, 0), 0);
+        due("only on it at 480", x.places(0, 480, 0), 1);
+    }
+
     /** "each of the SKIER's PASSES that count is one of the beginnings, at its MINUTE". */
     private static void eachPassIsABeginning() {
         SkiMountain x = hill();
@@ -522,6 +544,32 @@ public final class SkierBoundsTest {
         due("as known now", x.places(0, 540, 1), 1);
     }
 
+    /** Whichever two LIFTS: nobody gets on two at one MINUTE, nor on a third for it. */
+    private static void anyTwoLiftsAgainstOneAnother() {
+        StringBuilder b = new StringBuilder();
+        for (int lift = 0; lift < 6; lift++) {
+            b.append("lift l").append((char) ('a' + lift)).append(" p0 p").append(lift + 1)
+                .append(" takes 10 seats 1 from 0 to 480 gate;");
+        }
+        for (int one = 0; one < 6; one++) {
+            for (int other = 0; other < 6; other++) {
+                SkiMountain x = Check.made(b.toString());
+                x.skier(0);
+                x.pass(0, one, 100);
+                x.pass(0, other, 100);
+                boolean same = one == other;
+                String both = one + " and " + other;
+                due("home at 0, " + both, x.can(0, 0, 0, 0), same ? 1 : 0);
+                for (int lift = 0; lift < 6; lift++) {
+                    due("on " + lift + ", " + both, x.canOn(0, lift, 105, 0), same && lift == one ? 1 : 0);
+                }
+                due("places at 540, " + both, x.places(0, 540, 0), same ? 1 : 0);
+                x.pass(0, (one + 1) % 6, 100);
+                due("nowhere by three, " + both, x.places(0, 0, 0), 0);
+            }
+        }
+    }
+
     /** Two PASSES of one LIFT at one MINUTE are one getting on. */
     private static void twiceTheSame() {
         SkiMountain x = hill();
@@ -560,6 +608,38 @@ public final class SkierBoundsTest {
                 due("places", x.places(skill, 0, 0), grade <= skill ? 2 : 1);
             }
         }
+    }
+
+    /** Each of the 7 RUNS and of the 6 LIFTS, where no other WAY can be begun. */
+    private static void eachWayAlone() {
+        for (int one = 0; one < 7; one++) {
+            StringBuilder runs = new StringBuilder();
+            StringBuilder lifts = new StringBuilder();
+            for (int n = 0; n < 7; n++) {
+                runs.append("run r").append((char) ('a' + n)).append(" p0 p").append(n + 1).append(" grade ")
+                    .append(n == one ? 0 : 3).append(" takes 9 snow 0;");
+            }
+            for (int n = 0; n < 6; n++) {
+                lifts.append("lift l").append((char) ('a' + n)).append(" p0 p").append(n + 1).append(" takes ")
+                    .append(n == one ? 9 : 8).append(" seats 1 from 0 to 480;");
+            }
+            alone(Check.made(runs.toString()), 10, 7, one);
+            if (one < 6) {
+                SkiMountain x = Check.made(lifts.toString());
+                due("law", Check.law(x, "shut lift if takes=8;"), 1);
+                alone(x, 0, 6, one);
+            }
+        }
+    }
+
+    private static void alone(SkiMountain x, int first, int many, int one) {
+        x.skier(0);
+        for (int n = 0; n < many; n++) {
+            int way = first + n;
+            due("WAY " + way + ", " + one + " alone", x.canOn(0, way, 479, 0), n == one ? 1 : 0);
+            due("its end", x.can(0, n + 1, 9, 0), n == one ? 1 : 0);
+        }
+        due("places", x.places(0, 20, 0), 3);
     }
 
     /** SKIERS take less on a RUN for each grade, too. */
@@ -716,7 +796,7 @@ public final class SkierBoundsTest {
         for (int p : new int[] {-1, 10, MIN, MAX}) {
             due("P " + p, x.meet(0, 1, p, 0, 0), NONE);
         }
-        for (int from : new int[] {541, 542, MAX}) {
+        for (int from : new int[] {-1, -2, 541, 542, MIN, MAX}) {
             due("from " + from, x.meet(0, 1, 0, from, 0), NONE);
         }
     }

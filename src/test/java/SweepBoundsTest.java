@@ -17,14 +17,19 @@ public final class SweepBoundsTest {
         minutesBetween();
         nobodyComesThere();
         begunWhenAllAboveAreSwept();
+        whicheverRunsAreAbove();
         ringsOfRuns();
         runsEndingElsewhere();
         overRunsThatAreNotSwept();
         twoShareTheRuns();
         twoAreNoSlower();
+        leastOfAllOrders();
+        leastByOneMinute();
+        overAnyPlace();
         neitherLawNorWeather();
         sevenRuns();
         anotherMountain();
+        nothingIsAboveAnyMore();
         aboutAsksForTen();
         aboutAtItsMost();
         aboutBehindWhatIsTakenBack();
@@ -147,6 +152,32 @@ public final class SweepBoundsTest {
         due("from p2 up first", z.sweep(2, 1), 36);
     }
 
+    /** The same for each of seven RUNS, told in any order: six end where the seventh begins. */
+    private static void whicheverRunsAreAbove() {
+        for (int below = 0; below < 7; below++) {
+            StringBuilder b = new StringBuilder();
+            int minutes = 0;
+            for (int n = 0; n < 7; n++) {
+                int takes = 2 + n;
+                minutes += takes;
+                b.append(run("r" + (char) ('a' + n), n == below ? "p1 p2" : "p0 p1", takes));
+            }
+            b.append(lift("l", "p1 p0", 1)).append(lift("m", "p0 p1", 1));
+            SkiMountain x = Check.made(b.toString());
+            due("one, " + below + " last", x.sweep(0, 1), minutes + 5);
+            due("from p1", x.sweep(1, 1), minutes + 6);
+        }
+        for (int slow = 0; slow < 4; slow++) {
+            StringBuilder b = new StringBuilder();
+            for (int n = 0; n < 4; n++) {
+                b.append(run("r" + (char) ('a' + n), n == 3 ? "p1 p2" : "p0 p1", n == slow ? 50 : 5));
+            }
+            b.append(lift("l", "p1 p0", 1));
+            SkiMountain x = Check.made(b.toString());
+            due("two, the slow one is " + slow, x.sweep(0, 2), slow == 3 ? 5 + 1 + 5 + 50 : 50 + 5);
+        }
+    }
+
     /** RUNS that wait for one another are never SWEPT. */
     private static void ringsOfRuns() {
         SkiMountain two = Check.made(run("a", "p0 p1", 1) + run("b", "p1 p0", 1));
@@ -195,6 +226,50 @@ public final class SweepBoundsTest {
         due("two", x.sweep(0, 2), 27);
     }
 
+    /** "SWEEP is the least number of minutes": the RUNS told first need not be SWEPT first. */
+    private static void leastOfAllOrders() {
+        StringBuilder b = new StringBuilder();
+        for (int n = 0; n < 7; n++) {
+            b.append(run("r" + (char) ('a' + n), n < 3 ? "p1 p9" : "p2 p9", 1));
+        }
+        b.append(lift("la", "p9 p1", 3)).append(lift("lb", "p9 p2", 1));
+        // LIFTS that bear nobody where he has to be
+        for (int n = 2; n < 6; n++) {
+            b.append(lift("l" + (char) ('a' + n), "p9 p" + (n + 1), 30));
+        }
+        SkiMountain x = Check.made(b.toString());
+        // the first RUN needs no LIFT: seven minutes down, three times 3 and three times 1 up
+        due("from p2", x.sweep(2, 1), 7 + 3 * 3 + 3);
+        due("from p1", x.sweep(1, 1), 7 + 2 * 3 + 4);
+        due("from p9", x.sweep(9, 1), 7 + 3 * 3 + 4);
+        // both begin at once; three times 4 and two times 2 are left, 8 for each
+        due("from p2 by two", x.sweep(2, 2), 1 + 8);
+    }
+
+    /** One MINUTE less is less: d can be SWEPT on the way, but is better SWEPT at the end. */
+    private static void leastByOneMinute() {
+        SkiMountain x = Check.made(run("d", "p4 p5", 5) + run("c", "p3 p1", 5) + run("a", "p1 p0", 5) + run("b", "p0 p2", 5)
+            + lift("l", "p1 p4", 1) + lift("m", "p5 p1", 1) + lift("n", "p2 p4", 1));
+        // c, up to d, back to a, b: 22 minutes; c, a, b, up to d: 21
+        due("one", x.sweep(3, 1), 21);
+        SkiMountain y = Check.made(run("d", "p4 p5", 5) + run("c", "p3 p1", 5) + run("a", "p1 p0", 5) + run("b", "p0 p2", 5)
+            + lift("l", "p1 p4", 1) + lift("m", "p5 p1", 1) + lift("n", "p2 p4", 3));
+        due("on the way, if it is farther at the end", y.sweep(3, 1), 22);
+    }
+
+    /** "by the least minutes by WAYS": over any P, p0 and p9 as well. */
+    private static void overAnyPlace() {
+        for (int over = 0; over <= 9; over++) {
+            int from = (over + 3) % 10;
+            int to = (over + 6) % 10;
+            SkiMountain x = Check.made(run("a", "p" + to + " p" + from, 5) + lift("l", "p" + from + " p" + over, 7)
+                + lift("m", "p" + over + " p" + to, 8));
+            due("over " + over, x.sweep(from, 1), 20);
+            due("from " + over, x.sweep(over, 1), 13);
+            due("over " + over + " by two", x.sweep(from, 2), 20);
+        }
+    }
+
     /** A LAW, WEATHER and the TIME change nothing of it. */
     private static void neitherLawNorWeather() {
         SkiMountain x = Check.made(run("a", "p1 p0", 10) + lift("l", "p0 p1", 2));
@@ -241,6 +316,15 @@ public final class SweepBoundsTest {
         due("20 now", x.sweep(1, 1), 20);
         due("no RUNS", x.mountain(), 0);
         due("0 now", x.sweep(0, 1) + x.sweep(1, 2), 0);
+    }
+
+    /** What was above in the MOUNTAIN ahead is not above in this one. */
+    private static void nothingIsAboveAnyMore() {
+        SkiMountain x = Check.made(run("a", "p0 p1", 1) + run("b", "p1 p0", 1));
+        due("a ring", x.sweep(0, 1), NONE);
+        due("no ring", Check.mountain(x, run("a", "p0 p1", 10) + run("b", "p0 p1", 20) + lift("l", "p1 p0", 3)), 3);
+        due("one", x.sweep(0, 1), 33);
+        due("two", x.sweep(0, 2), 20);
     }
 
     // ---- 30: about

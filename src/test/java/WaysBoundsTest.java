@@ -27,6 +27,7 @@ public final class WaysBoundsTest {
         nthWay();
         noWaysToWhereOneIs();
         firstByNumber();
+        thoseThatCantBeBegun();
         justInTime();
         begunAsSoonAsItCanBe();
         goingRoundTheWayThere();
@@ -288,6 +289,25 @@ public final class WaysBoundsTest {
         Check.mountain(x, "lift a p0 p1 takes 10 seats 1 from 0 to 480;lift b p0 p1 takes 9 seats 1 from 0 to 480;");
         due("not SHUT", Check.law(x, ""), 0);
         due("the faster of two", x.way(0, 0, 20, 1, 0, 0), 1);
+    }
+
+    /** WAYS of lower numbers that can't be begun any more, or not by this SKILL, are none of them. */
+    private static void thoseThatCantBeBegun() {
+        SkiMountain x = Check.made("lift a p0 p1 takes 1 seats 1 from 0 to 50;lift b p0 p3 takes 1 seats 1 from 0 to 50;"
+            + "lift c p0 p1 takes 9 seats 1 from 0 to 480;run d p1 p2 grade 3 takes 1 snow 0;"
+            + "run e p1 p2 grade 1 takes 8 snow 0;run f p1 p4 grade 3 takes 1 snow 0;");
+        due("on duty", x.way(0, 0, 49, 1, 0, 0), 0);
+        due("off duty", x.way(0, 0, 50, 1, 0, 0), 2);
+        due("too steep", x.way(1, 1, 0, 2, 0, 0), 11);
+        due("not too steep", x.way(3, 1, 0, 2, 0, 0), 10);
+        due("off duty, then too steep", x.way(1, 0, 50, 2, 0, 0) * 100 + x.way(1, 0, 50, 2, 1, 0), 211);
+        due("no third", x.way(1, 0, 50, 2, 2, 0), NONE);
+        due("too steep for all", x.way(0, 0, 50, 2, 0, 0), NONE);
+        Check.law(x, "shut lift if hour=7 and takes=1;");
+        due("LIFTS to nowhere are none of them", x.way(1, 0, 430, 1, 0, 0), 2);
+        Check.law(x, "shut run if hour=7 and takes=1;");
+        due("SHUT to the end", x.way(3, 1, 420, 2, 0, 0), 11);
+        due("not SHUT yet", x.way(3, 1, 419, 2, 0, 0), 10);
     }
 
     /** "leads there by that MINUTE": just in time, and one MINUTE too late. */
